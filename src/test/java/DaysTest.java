@@ -17,6 +17,7 @@ public final class DaysTest {
         jobsByReport();
         biggerOutingsFirst();
         nearestFirst();
+        oldJobsStayInOrder();
         thirstIsRoundedUp();
         flowOfTheDay();
         visitors();
@@ -80,7 +81,14 @@ public final class DaysTest {
         Check.dueArgument("its last day", () -> park.thaw(10));
         Check.dueArgument("no day", () -> park.thaw(-1));
         Check.dueArgument("no day", () -> park.thaw(1000));
-        Check.due("the days are free", 2, park.frost(3, 3));
+        Check.due("thaw of the last one", 7, park.thaw(4));
+        Check.due("the days are free", 1, park.frost(4, 10));
+        for (int day = 20; day < 25; day++) {
+            park.frost(day, day);
+        }
+        Check.due("thaw of one of 6", 1, park.thaw(22));
+        Check.due("5 are left", "4 20 21 23 24 -1", Check.row(0, 5, frost -> park.frostOf(frost, 0)));
+        Check.due("so there is room", 6, park.frost(22, 22));
     }
 
     private static void plan() {
@@ -357,6 +365,25 @@ public final class DaysTest {
         Check.due("7, then 6", "4 4 8 4 4 4 4 4", Check.row(0, 7, p -> park.fountain(p, 7)));
     }
 
+    /** However long ago the other kind was reported. */
+    private static void oldJobsStayInOrder() {
+        FountainPark park = new FountainPark();
+        park.set(0, 0);
+        park.build(0, 10, 10, true);
+        park.plan(0, 20, 0);
+        for (int i = 0; i < 16; i++) {
+            park.pass(60);
+        }
+        park.build(7, 10, 900, false);
+        park.frost(960, 999);
+        park.pass(39);
+        Check.due("mending first", "7/0 0/1", queue(park));
+        park.set(1, 1);
+        Check.due("changes first", "0/1 7/0", queue(park));
+        park.set(1, 2);
+        Check.due("no kind first", "0/1 7/0", queue(park));
+    }
+
     private static void thirstIsRoundedUp() {
         FountainPark park = new FountainPark();
         park.set(3, 0);
@@ -372,6 +399,9 @@ public final class DaysTest {
         Check.due("4 of 4 quarters: none", 0, park.pass(1));
         park.plan(3, 1, 7);
         Check.due("none in reach", 1, park.pass(1));
+        park.set(2, 1);
+        park.plan(4, 6, 2);
+        Check.due("4 of 6 quarters, one for each", 2, park.pass(1));
     }
 
     private static void flowOfTheDay() {

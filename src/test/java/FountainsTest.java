@@ -6,6 +6,7 @@ public final class FountainsTest {
         buildIsUndoable();
         buildThrows();
         remove();
+        nothingIsLeftAtThePlace();
         removeThrows();
         drain();
         heat();
@@ -95,6 +96,17 @@ public final class FountainsTest {
         Check.due("undo of remove", 3, park.undo());
         Check.due("its jobs are back", 2, park.count(3));
         Check.due("the fountain is back", "10 10 40 0 0 1 2 40 0 1", Check.row(0, 9, what -> park.fountain(3, what)));
+    }
+
+    private static void nothingIsLeftAtThePlace() {
+        FountainPark park = new FountainPark();
+        park.build(2, 10, 10, true);
+        park.pass(4);
+        park.drain(2, true);
+        Check.due("behind four days", "10 10 40 1 1 0 3 80 1 0", Check.row(0, 9, what -> park.fountain(2, what)));
+        park.remove(2);
+        park.build(2, 10, 10, false);
+        Check.due("a new one", "10 10 0 0 0 0 0 0 0 0", Check.row(0, 9, what -> park.fountain(2, what)));
     }
 
     private static void removeThrows() {

@@ -92,6 +92,7 @@ public final class OutlookTest {
         Check.due("20 children drink", 0, park.ifOuting(20, 3));
         Check.due("one of 21 is thirsty", 1, park.ifOuting(21, 3));
         Check.due("out of reach", 21, park.ifOuting(21, 6));
+        Check.due("one child out of reach", 1, park.ifOuting(1, 0));
         park.plan(0, 15, 3);
         Check.due("5 are left for it", 0, park.ifOuting(5, 5));
         Check.due("a smaller one comes behind", 9, park.ifOuting(14, 1));
@@ -125,6 +126,7 @@ public final class OutlookTest {
         Check.due("without fountains", 0, park.bestGate(5));
         park.build(6, 10, 900, true);
         Check.due("the lowest in reach", 4, park.bestGate(20));
+        Check.due("the lowest in reach of one child", 4, park.bestGate(1));
         Check.due("the lowest in reach, though some thirst", 4, park.bestGate(99));
         park.build(7, 10, 900, true);
         Check.due("one is enough", 4, park.bestGate(20));
@@ -259,6 +261,11 @@ public final class OutlookTest {
         park.undo();
         Check.dueShare("20 of 30 behind undo", 20.0 / 30.0, park.fed());
         FountainPark dry = new FountainPark();
+        dry.plan(0, 1, 3);
+        dry.pass(1);
+        Check.dueShare("0 of 1", 0.0, dry.fed());
+        dry.undo();
+        dry.undo();
         dry.plan(0, 3, 3);
         dry.pass(1);
         Check.dueShare("0 of 3", 0.0, dry.fed());

@@ -142,6 +142,12 @@ public final class TextsTest {
         Check.dueState("a day is over", park::planAll);
         Check.due("all or none", 0, park.count(4));
         Check.due("the buffer stays", 27, park.clearBuffer());
+        Check.write(park, "4:1@0;9:1@0");
+        Check.dueState("the first day is over", park::planAll);
+        park.clearBuffer();
+        Check.write(park, "9:1@0;4:1@0");
+        Check.dueState("the last day is over", park::planAll);
+        park.clearBuffer();
         for (int i = 0; i < 14; i++) {
             park.plan(7, 1, 0);
         }
