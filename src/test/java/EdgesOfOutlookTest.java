@@ -320,11 +320,11 @@ public final class EdgesOfOutlookTest {
         }
         FountainPark many = new FountainPark();
         many.build(0, 1, 10, true);
-        for (int i = 0; i < 200; i++) {
+        for (int i = 0; i < 60; i++) {
             many.plan(i, 99, i % 8);
             many.pass(1);
         }
-        Check.dueShare("P28 of 19800", (19800 - many.count(5)) / 19800.0, many.fed());
+        Check.dueShare("P28 of 5940", (5940 - many.count(5)) / 5940.0, many.fed());
         digestIsDue("P29 the bits of a small share", many, "");
     }
 
@@ -344,13 +344,12 @@ public final class EdgesOfOutlookTest {
     }
 
     private static void digestOfTheBuffer() {
-        FountainPark park = new FountainPark();
         StringBuilder buffer = new StringBuilder();
-        for (int i = 0; i < 60; i++) {
-            char code = (char) (i % 2 == 0 ? 33 + i : 126 - i);
-            buffer.append(code);
-            park.append(code);
-            digestIsDue("P29 the buffer of " + (i + 1), park, buffer.toString());
+        for (int i = 0; i <= 60; i++) {
+            FountainPark park = new FountainPark();
+            Check.write(park, buffer.toString());
+            digestIsDue("P29 the buffer of " + i, park, buffer.toString());
+            buffer.append((char) (i % 2 == 0 ? 33 + i : 126 - i));
         }
     }
 

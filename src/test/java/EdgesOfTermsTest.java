@@ -200,7 +200,7 @@ public final class EdgesOfTermsTest {
     }
 
     /** The filters of 6 and 1 on the day 0, the bursts of 5 and 2 on the day 1, the filter of 4 too. */
-    private static void orderOfJobs() {
+    private static FountainPark withFiveJobs() {
         FountainPark park = dry();
         park.set(0, 0);
         int[] places = {6, 1, 5, 2, 4};
@@ -219,19 +219,22 @@ public final class EdgesOfTermsTest {
         park.frost(1, 1);
         park.plan(1, 40, 3);
         park.pass(1);
+        return park;
+    }
+
+    private static void orderOfJobs() {
         String[] want = {"2/0 5/0 1/1 6/1 4/1", "1/1 6/1 4/1 2/0 5/0", "1/1 6/1 2/0 4/1 5/0"};
         for (int order = 0; order < 3; order++) {
-            park.set(1, order);
-            Check.due("Terms the order " + order, want[order], queue(park));
             for (int hands = 0; hands <= 18; hands++) {
+                FountainPark park = withFiveJobs();
+                park.set(1, order);
                 park.set(0, hands);
+                Check.due("Terms the order " + order, want[order], queue(park));
                 park.pass(1);
                 Check.due("Terms the crew goes by the order " + order + " with " + hands,
                         doneBy(want[order], hands), queue(park));
-                park.undo();
             }
         }
-        Check.due("Terms the day 2", 2, park.count(0));
     }
 
     /** However far apart they were reported, and at whatever places. */
@@ -504,26 +507,28 @@ public final class EdgesOfTermsTest {
     /** 6 states are kept; a seventh drops the oldest one. */
     private static void undoRestoresAll() {
         for (int calls = 0; calls <= 9; calls++) {
-            FountainPark park = few();
-            park.set(4, 3);
-            long[] digests = new long[calls + 1];
-            for (int i = 0; i < calls; i++) {
-                digests[i] = withoutSaved(park);
-                change(park, i);
-            }
-            digests[calls] = withoutSaved(park);
+            FountainPark park = behind(calls);
             int kept = Math.min(6, 4 + calls);
             Check.due("Terms at most 6 states", kept, park.count(11));
             for (int back = 1; back <= Math.min(6, calls); back++) {
                 Check.due("Terms undo", kept - back, park.undo());
-                Check.due("Terms all is restored, " + back + " of " + calls + " calls back", digests[calls - back],
-                        withoutSaved(park));
+                Check.due("Terms all is restored, " + back + " of " + calls + " calls back",
+                        withoutSaved(behind(calls - back)), withoutSaved(park));
             }
             for (int left = kept - Math.min(6, calls); left > 0; left--) {
                 Check.due("Terms undo of what was before", left - 1, park.undo());
             }
             Check.dueState("Terms no more", park::undo);
         }
+    }
+
+    private static FountainPark behind(int calls) {
+        FountainPark park = few();
+        park.set(4, 3);
+        for (int i = 0; i < calls; i++) {
+            change(park, i);
+        }
+        return park;
     }
 
     private static void change(FountainPark park, int i) {
@@ -541,20 +546,14 @@ public final class EdgesOfTermsTest {
     }
 
     /** All but how many states are saved. */
-    private static long withoutSaved(FountainPark park) {
-        StringBuilder all = new StringBuilder(Check.row(0, 10, park::count)).append(Check.row(0, 4, park::setting));
-        for (int i = 0; i < 8; i++) {
-            all.append(' ').append(Edges.fountainRow(park, i));
-        }
+    private static String withoutSaved(FountainPark park) {
+        StringBuilder all = new StringBuilder(Check.row(0, 10, park::count));
+        all.append("; ").append(Check.row(0, 4, park::setting)).append("; ").append(Edges.fountainRow(park, 3));
         for (int i = 0; i < 2; i++) {
-            all.append(' ').append(Edges.jobRow(park, i)).append(' ').append(Edges.frostRow(park, i)).append(' ')
+            all.append("; ").append(Edges.jobRow(park, i)).append("; ").append(Edges.frostRow(park, i)).append("; ")
                     .append(Edges.outingRow(park, i));
         }
-        long hash = 7;
-        for (int i = 0; i < all.length(); i++) {
-            hash = 1000003 * hash + all.charAt(i);
-        }
-        return hash;
+        return all.toString();
     }
 
     /** Each method that can throw, one after the other on one park. */

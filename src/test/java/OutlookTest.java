@@ -277,17 +277,26 @@ public final class OutlookTest {
     }
 
     private static void digestByItsList() {
+        FountainPark busy = busyPark();
+        Check.due("digest of a busy park", byItsList(busy, ""), busy.digest());
+        for (int steps = 0; steps <= 12; steps++) {
+            FountainPark park = busyBehind(steps);
+            Check.due("digest behind " + steps, byItsList(park, "7:1@1~"), park.digest());
+            park.clearBuffer();
+            Check.due("digest behind clearBuffer", byItsList(park, ""), park.digest());
+        }
+    }
+
+    /** A new park each time, as an object stands for 512 calls. */
+    private static FountainPark busyBehind(int steps) {
         FountainPark park = busyPark();
-        Check.due("digest of a busy park", byItsList(park, ""), park.digest());
         park.set(0, 1);
         Check.write(park, "7:1@1~");
-        for (int i = 0; i < 12; i++) {
+        for (int i = 0; i < steps; i++) {
             park.pass(i % 3 + 1);
             park.plan(park.count(0) + 1, 7 * i + 3, i % 8);
-            Check.due("digest behind " + i, byItsList(park, "7:1@1~"), park.digest());
         }
-        park.clearBuffer();
-        Check.due("digest behind clearBuffer", byItsList(park, ""), park.digest());
+        return park;
     }
 
     /** The digest from the public answers alone, as the document lists them. */
