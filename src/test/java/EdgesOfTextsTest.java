@@ -234,6 +234,14 @@ public final class EdgesOfTextsTest {
                     FountainPark::planAll);
             Check.due("P15 how many there are then", groups, with(text).planAll());
         }
+        String sixty = "100:10@7+" + times(12, "9@7+") + "9@7";
+        Check.due("P15 60 characters", 60, sixty.length());
+        Check.due("P15 14 outings of 60 characters", 14, with(sixty).planAll());
+        Check.due("P15 16 outings by 60 characters", 16, planned(2, sixty).planAll());
+        Edges.refused("P15 17 outings by 60 characters", Edges.STATE, () -> planned(3, sixty),
+                FountainPark::planAll);
+        Edges.refused("P15 60 characters that are not complete", Edges.ARGUMENT,
+                () -> with("10:10@7+" + times(13, "9@7+")), FountainPark::planAll);
         Edges.refused("P15 too many, and a day that is over", Edges.STATE, () -> {
             FountainPark park = planned(16, "0:1@1");
             park.pass(1);
