@@ -13,6 +13,7 @@ public final class EdgesOfOutlookTest {
         ifOutingAnswers();
         bestGateRange();
         bestGateAnswers();
+        bestGateIsAGate();
         daysToFilterRange();
         daysToFilterAnswers();
         daysToFilterBehindTheEnd();
@@ -197,6 +198,24 @@ public final class EdgesOfOutlookTest {
             }
         }
         Check.due("P25 the least ifOuting, of several the lowest", lowest, best);
+    }
+
+    /**
+     * Beside the row it would be better still: from there the outing reaches the fountain at the end, but not the one
+     * that a planned outing shares with it.
+     */
+    private static void bestGateIsAGate() {
+        for (boolean isMirrored : new boolean[] {false, true}) {
+            FountainPark park = new FountainPark();
+            park.set(2, 9);
+            park.build(isMirrored ? 0 : 7, 61, 900, true);
+            park.build(isMirrored ? 2 : 5, 1, 900, true);
+            park.build(isMirrored ? 6 : 1, 2, 900, true);
+            park.plan(0, 1, isMirrored ? 4 : 3);
+            Check.due("P25 without it nobody is thirsty", 0, park.ifPassed(1, 0));
+            Check.due("P25 three of its children, and the other child", 4, park.ifOuting(30, isMirrored ? 0 : 7));
+            Check.due("P25 the gate is one of 0 to 7", isMirrored ? 0 : 5, park.bestGate(30));
+        }
     }
 
     private static void daysToFilterRange() {
